@@ -1,0 +1,28 @@
+/** Counts the answers that are not as due and prints each of them. */
+final class Due {
+    private int wrong = 0;
+    private int asked = 0;
+
+    void is(int promise, String call, long got, long want) {
+        asked++;
+        if (got != want) {
+            wrong++;
+            System.out.println("promise " + promise + ": " + call + " answered " + got + ", due is " + want);
+        }
+    }
+
+    void holds(String what, boolean held) {
+        asked++;
+        if (!held) {
+            wrong++;
+            System.out.println("does not hold: " + what);
+        }
+    }
+
+    void end() {
+        if (asked == 0 || wrong > 0) {
+            System.out.println(wrong + " of " + asked + " answers are not as due");
+            System.exit(1);
+        }
+    }
+}
