@@ -19,6 +19,12 @@ final class Due {
         }
     }
 
+    /** Gives a table a row that it must take. */
+    void row(MaskedCopies x, int t, int... cells) {
+        for (int v : cells) x.cell(v);
+        holds("the row is taken", x.row(t) >= 0);
+    }
+
     void end() {
         if (asked == 0 || wrong > 0) {
             System.out.println(wrong + " of " + asked + " answers are not as due");

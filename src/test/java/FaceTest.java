@@ -103,9 +103,7 @@ public final class FaceTest {
         for (int t = 0; t < 4; t++) for (int c = 1; c < 6; c++) x.column(t, c < 5 ? c : 2, c == 1 ? (t + run) % 4 : 0);
         for (int t = 0; t < 4; t++) for (int r = 0; r < 12; r++) {
             int key = r < 10 ? 1000 * r + 2 * r % 10 : 10001 * (r - 9);
-            int[] cells = {key, 12340, 830 * r, 99 * r, 8 * r, r};
-            for (int v : cells) x.cell(v);
-            due.holds("the row is taken", x.row(t) == r);
+            due.row(x, t, key, 12340, 830 * r, 99 * r, 8 * r, r);
         }
         return x;
     }

@@ -12,11 +12,6 @@ public final class LookingTest {
         due.end();
     }
 
-    private static void rowOf(MaskedCopies x, int t, int... cells) {
-        for (int v : cells) x.cell(v);
-        due.holds("the row is taken", x.row(t) >= 0);
-    }
-
     /** TABLE 0: KEY, DAY, SUM, NAME, three ROWS. TABLE 1: KEY, REF to 0, four ROWS. */
     private static MaskedCopies people() {
         MaskedCopies x = new MaskedCopies();
@@ -26,13 +21,13 @@ public final class LookingTest {
         x.column(0, 4, 0);
         x.table();
         x.column(1, 1, 0);
-        rowOf(x, 0, 0, 15, -15, 7);
-        rowOf(x, 0, 14, 26, 38, MISSING);
-        rowOf(x, 0, 28, MISSING, 41, MISSING);
-        rowOf(x, 1, 0, 14);
-        rowOf(x, 1, 14, 14);
-        rowOf(x, 1, 28, MISSING);
-        rowOf(x, 1, 32, 32);
+        due.row(x, 0, 0, 15, -15, 7);
+        due.row(x, 0, 14, 26, 38, MISSING);
+        due.row(x, 0, 28, MISSING, 41, MISSING);
+        due.row(x, 1, 0, 14);
+        due.row(x, 1, 14, 14);
+        due.row(x, 1, 28, MISSING);
+        due.row(x, 1, 32, 32);
         return x;
     }
 
@@ -85,10 +80,10 @@ public final class LookingTest {
         MaskedCopies x = new MaskedCopies();
         x.table();
         x.column(0, 1, 0);
-        rowOf(x, 0, 0, 0);
-        rowOf(x, 0, 14, 0);
-        rowOf(x, 0, 28, 14);
-        rowOf(x, 0, 32, MISSING);
+        due.row(x, 0, 0, 0);
+        due.row(x, 0, 14, 0);
+        due.row(x, 0, 28, 14);
+        due.row(x, 0, 32, MISSING);
         due.is(21, "a REF to its own TABLE", x.joins(0, 1, 0), 3);
     }
 
@@ -114,7 +109,7 @@ public final class LookingTest {
         x.make();
         // PERSON 0 goes up by 20; PERSON 14 cannot go down by 27, but by 26.
         due.is(22, "SHIFT up and down", x.miss(0, 1), 20 + 26);
-        rowOf(x, 1, 46, 14);
+        due.row(x, 1, 46, 14);
         due.is(22, "MADE is gone", x.miss(0, 1), -3);
     }
 }

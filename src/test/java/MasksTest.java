@@ -27,11 +27,6 @@ public final class MasksTest {
         return x;
     }
 
-    private static void rowOf(MaskedCopies x, int t, int... cells) {
-        for (int v : cells) x.cell(v);
-        due.holds("the row is taken", x.row(t) >= 0);
-    }
-
     private static void owners() {
         MaskedCopies x = allKinds();
         due.is(7, "no TABLE", x.owner(2, 0), -1);
@@ -159,9 +154,9 @@ public final class MasksTest {
         x.table();
         x.column(1, 1, 0);
         x.column(1, 2, 0);
-        rowOf(x, 0, 0, 5, 9980);
-        rowOf(x, 1, 14, 0, 2);
-        rowOf(x, 1, 28, MISSING, 0);
+        due.row(x, 0, 0, 5, 9980);
+        due.row(x, 1, 14, 0, 2);
+        due.row(x, 1, 28, MISSING, 0);
         due.is(19, "no COLUMN with SHIFT", x.shift(0), -30);
         x.mask(0, 1, 2, 0);
         due.is(19, "DAY 5 stays", x.shift(0), -5);

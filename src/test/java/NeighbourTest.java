@@ -19,11 +19,6 @@ public final class NeighbourTest {
         due.end();
     }
 
-    private static void rowOf(MaskedCopies x, int t, int... cells) {
-        for (int v : cells) x.cell(v);
-        due.holds("the row is taken", x.row(t) >= 0);
-    }
-
     /** One TABLE with COLUMNS of these KINDS behind its KEY. */
     private static MaskedCopies tableOf(int... kinds) {
         MaskedCopies x = new MaskedCopies();
@@ -38,7 +33,7 @@ public final class NeighbourTest {
         due.is(24, "without ROWS", x.alike(0, 0), -1);
         due.is(24, "without ROWS, a bit of none", x.alike(0, 64), -1);
         due.is(25, "without ROWS", x.sure(0, 0, 0, 0), -1);
-        rowOf(x, 0, 0, 5);
+        due.row(x, 0, 0, 5);
         due.is(23, "no TABLE", x.could(1, 0, 0), -1);
         due.is(23, "ROW 1", x.could(0, 1, 0), -1);
         due.is(23, "ROW -1", x.could(0, -1, 4), -1);
@@ -57,11 +52,11 @@ public final class NeighbourTest {
 
     private static void couldByMask() {
         MaskedCopies x = tableOf(3, 4);
-        rowOf(x, 0, 0, 11, 5);
-        rowOf(x, 0, 14, 19, 5);
-        rowOf(x, 0, 28, -1, MISSING);
-        rowOf(x, 0, 32, MISSING, 6);
-        rowOf(x, 0, 46, MISSING, MISSING);
+        due.row(x, 0, 0, 11, 5);
+        due.row(x, 0, 14, 19, 5);
+        due.row(x, 0, 28, -1, MISSING);
+        due.row(x, 0, 32, MISSING, 6);
+        due.row(x, 0, 46, MISSING, MISSING);
         due.is(23, "nothing known", x.could(0, 0, 0), 5);
         due.is(23, "KEY kept", x.could(0, 0, 1), 1);
         due.is(23, "SUM kept", x.could(0, 0, 2), 1);
@@ -86,9 +81,9 @@ public final class NeighbourTest {
         MaskedCopies x = tableOf();
         x.table();
         x.column(1, 1, 0);
-        rowOf(x, 1, 0, 14);
-        rowOf(x, 1, 14, 14);
-        rowOf(x, 1, 28, MISSING);
+        due.row(x, 1, 0, 14);
+        due.row(x, 1, 14, 14);
+        due.row(x, 1, 28, MISSING);
         due.is(23, "KEY of its TABLE kept", x.could(1, 0, 2), 2);
         x.mask(1, 0, 1, 0);
         due.is(23, "its own TABLE's KEY turned", x.could(1, 0, 2), 2);
@@ -101,11 +96,11 @@ public final class NeighbourTest {
 
     private static void couldByShift() {
         MaskedCopies x = tableOf(2, 2, 2);
-        rowOf(x, 0, 0, 100, 110, 500);
-        rowOf(x, 0, 14, 200, 210, 600);
-        rowOf(x, 0, 28, 300, 311, 700);
-        rowOf(x, 0, 32, MISSING, 410, 800);
-        rowOf(x, 0, 46, 500, 510, MISSING);
+        due.row(x, 0, 0, 100, 110, 500);
+        due.row(x, 0, 14, 200, 210, 600);
+        due.row(x, 0, 28, 300, 311, 700);
+        due.row(x, 0, 32, MISSING, 410, 800);
+        due.row(x, 0, 46, 500, 510, MISSING);
         for (int c = 1; c < 4; c++) x.mask(0, c, 2, 0);
         due.is(23, "one COLUMN", x.could(0, 0, 2), 4);
         due.is(23, "where it is MISSING", x.could(0, 3, 2), 1);
@@ -121,14 +116,14 @@ public final class NeighbourTest {
 
     private static void alikes() {
         MaskedCopies x = tableOf(3);
-        rowOf(x, 0, 0, 1);
-        rowOf(x, 0, 14, 2);
-        rowOf(x, 0, 28, 11);
+        due.row(x, 0, 0, 1);
+        due.row(x, 0, 14, 2);
+        due.row(x, 0, 28, 11);
         due.is(24, "nothing known", x.alike(0, 0), 3);
         due.is(24, "kept", x.alike(0, 2), 1);
         x.mask(0, 1, 3, 10);
         due.is(24, "one stands alone", x.alike(0, 2), 1);
-        rowOf(x, 0, 32, 19);
+        due.row(x, 0, 32, 19);
         due.is(24, "two and two", x.alike(0, 2), 2);
         x.mask(0, 1, 3, 100);
         due.is(24, "all", x.alike(0, 2), 4);
@@ -139,11 +134,11 @@ public final class NeighbourTest {
 
     private static void sures() {
         MaskedCopies x = tableOf(3, 4);
-        rowOf(x, 0, 0, 1, 5);
-        rowOf(x, 0, 14, 2, 5);
-        rowOf(x, 0, 28, 11, MISSING);
-        rowOf(x, 0, 32, 12, MISSING);
-        rowOf(x, 0, 46, 21, 7);
+        due.row(x, 0, 0, 1, 5);
+        due.row(x, 0, 14, 2, 5);
+        due.row(x, 0, 28, 11, MISSING);
+        due.row(x, 0, 32, 12, MISSING);
+        due.row(x, 0, 46, 21, 7);
         x.mask(0, 1, 3, 10);
         due.is(25, "two have 5", x.sure(0, 0, 2, 2), 1);
         due.is(25, "both MISSING", x.sure(0, 2, 2, 2), 1);
@@ -167,9 +162,9 @@ public final class NeighbourTest {
         due.is(26, "the KEY", x.loss(0, 0), -2);
         x.mask(0, 1, 3, 10);
         due.is(26, "without ROWS", x.loss(0, 1), 0);
-        rowOf(x, 0, 0, -1, 9999);
-        rowOf(x, 0, 14, MISSING, MISSING);
-        rowOf(x, 0, 28, 23, 1000);
+        due.row(x, 0, 0, -1, 9999);
+        due.row(x, 0, 14, MISSING, MISSING);
+        due.row(x, 0, 28, 23, 1000);
         due.is(26, "9 and 3", x.loss(0, 1), 12);
         x.mask(0, 2, 3, 1000);
         due.is(26, "999 and 0", x.loss(0, 2), 999);
@@ -184,8 +179,8 @@ public final class NeighbourTest {
         due.is(27, "k 0", x.best(0, 2, 0), -2);
         due.is(27, "k -1", x.best(0, 2, -1), -2);
         due.is(27, "no ROW", x.best(0, 2, 1), -3);
-        rowOf(x, 0, 0, 1);
-        rowOf(x, 0, 14, 2001);
+        due.row(x, 0, 0, 1);
+        due.row(x, 0, 14, 2001);
         x.mask(0, 1, 3, 37);
         due.is(27, "no such way", x.best(0, 2, 2), -3);
         due.is(27, "the WIDTH stays", x.about(0, 1, 13), 37);
@@ -200,10 +195,10 @@ public final class NeighbourTest {
 
     private static void bestOfOne() {
         MaskedCopies x = tableOf(3);
-        rowOf(x, 0, 0, 101);
-        rowOf(x, 0, 14, 102);
-        rowOf(x, 0, 28, 119);
-        rowOf(x, 0, 32, 111);
+        due.row(x, 0, 0, 101);
+        due.row(x, 0, 14, 102);
+        due.row(x, 0, 28, 119);
+        due.row(x, 0, 32, 111);
         x.mask(0, 1, 3, 500);
         due.is(27, "k 1", x.best(0, 2, 1), 0);
         due.is(27, "WIDTH", x.about(0, 1, 13), 1);
@@ -217,10 +212,10 @@ public final class NeighbourTest {
 
     private static void bestOfSeveral() {
         MaskedCopies x = tableOf(3, 2, 4);
-        rowOf(x, 0, 0, 9, 10, 1);
-        rowOf(x, 0, 14, 8, 20, 1);
-        rowOf(x, 0, 28, 19, 11, 2);
-        rowOf(x, 0, 32, 18, 21, 2);
+        due.row(x, 0, 0, 9, 10, 1);
+        due.row(x, 0, 14, 8, 20, 1);
+        due.row(x, 0, 28, 19, 11, 2);
+        due.row(x, 0, 32, 18, 21, 2);
         x.mask(0, 1, 3, 1);
         x.mask(0, 2, 3, 1);
         // By the NAME, 0 goes with 14 and 28 with 32: 10 for the SUMS, 100 for the DAYS.
@@ -235,8 +230,8 @@ public final class NeighbourTest {
 
     private static void bestOfEqualLosses() {
         MaskedCopies x = tableOf(2, 2);
-        rowOf(x, 0, 0, 1000, 5000);
-        rowOf(x, 0, 14, 1000, 5000);
+        due.row(x, 0, 0, 1000, 5000);
+        due.row(x, 0, 14, 1000, 5000);
         x.mask(0, 1, 3, 1000);
         x.mask(0, 2, 3, 1000);
         due.is(27, "no loss at all", x.best(0, 6, 2), 0);
@@ -244,10 +239,10 @@ public final class NeighbourTest {
         due.is(27, "the second", x.about(0, 2, 13), 1);
 
         MaskedCopies y = tableOf(2, 2);
-        rowOf(y, 0, 0, 10, 20);
-        rowOf(y, 0, 14, 11, 21);
-        rowOf(y, 0, 28, 10, 21);
-        rowOf(y, 0, 32, 11, 20);
+        due.row(y, 0, 0, 10, 20);
+        due.row(y, 0, 14, 11, 21);
+        due.row(y, 0, 28, 10, 21);
+        due.row(y, 0, 32, 11, 20);
         y.mask(0, 1, 3, 7);
         y.mask(0, 2, 3, 7);
         due.is(27, "either of two", y.best(0, 6, 2), 2);
@@ -257,8 +252,8 @@ public final class NeighbourTest {
 
     private static void bestOfUnknownOnes() {
         MaskedCopies x = tableOf(3, 3);
-        rowOf(x, 0, 0, 1, 77);
-        rowOf(x, 0, 14, 2, 99);
+        due.row(x, 0, 0, 1, 77);
+        due.row(x, 0, 14, 2, 99);
         x.mask(0, 1, 3, 1);
         x.mask(0, 2, 3, 1000);
         due.is(27, "the second is not known", x.best(0, 2, 2), 3);

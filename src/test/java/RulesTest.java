@@ -20,11 +20,6 @@ public final class RulesTest {
         due.end();
     }
 
-    private static void rowOf(MaskedCopies x, int t, int... cells) {
-        for (int v : cells) x.cell(v);
-        due.holds("the row is taken", x.row(t) >= 0);
-    }
-
     /** TABLE 0: KEY, DAY, DAY, SUM. TABLE 1: KEY, REF to 0, SUM, REF to 1, NAME. */
     private static MaskedCopies twoTables() {
         MaskedCopies x = new MaskedCopies();
@@ -93,15 +88,15 @@ public final class RulesTest {
 
     private static void orderBroken() {
         MaskedCopies x = twoTables();
-        rowOf(x, 0, 0, 7, 7, 0);
-        rowOf(x, 0, 14, 9, MISSING, 0);
-        rowOf(x, 0, 28, MISSING, 3, 0);
+        due.row(x, 0, 0, 7, 7, 0);
+        due.row(x, 0, 14, 9, MISSING, 0);
+        due.row(x, 0, 28, MISSING, 3, 0);
         x.order(0, 1, 2);
         x.order(0, 2, 1);
         due.is(15, "equal and MISSING ones", x.broken(0), 100);
-        rowOf(x, 0, 32, 7, 8, 0);
+        due.row(x, 0, 32, 7, 8, 0);
         due.is(15, "the second", x.broken(0), 1);
-        rowOf(x, 0, 46, 8, 7, 0);
+        due.row(x, 0, 46, 8, 7, 0);
         due.is(15, "the first", x.broken(0), 0);
         x.unrule();
         due.is(15, "none", x.broken(0), 100);
@@ -113,18 +108,18 @@ public final class RulesTest {
     private static void agreeBroken() {
         MaskedCopies x = twoTables();
         x.agree(0, 3, 1, 2, 1, 0);
-        rowOf(x, 0, 0, 1, 1, 5);
+        due.row(x, 0, 0, 1, 1, 5);
         due.is(15, "no ROWS: 0 is due", x.broken(0), 0);
-        rowOf(x, 1, 0, 0, -4, MISSING, 1);
-        rowOf(x, 1, 14, 0, 9, MISSING, 1);
+        due.row(x, 1, 0, 0, -4, MISSING, 1);
+        due.row(x, 1, 14, 0, 9, MISSING, 1);
         due.is(15, "-4 and 9", x.broken(0), 100);
-        rowOf(x, 1, 28, 0, MISSING, MISSING, 1);
-        rowOf(x, 1, 32, 14, 100, MISSING, 1);
-        rowOf(x, 1, 46, MISSING, 100, MISSING, 1);
+        due.row(x, 1, 28, 0, MISSING, MISSING, 1);
+        due.row(x, 1, 32, 14, 100, MISSING, 1);
+        due.row(x, 1, 46, MISSING, 100, MISSING, 1);
         due.is(15, "MISSING ones and others' ones", x.broken(0), 100);
-        rowOf(x, 0, 14, 1, 1, MISSING);
+        due.row(x, 0, 14, 1, 1, MISSING);
         due.is(15, "a MISSING sum", x.broken(0), 100);
-        rowOf(x, 0, 28, 1, 1, 1);
+        due.row(x, 0, 28, 1, 1, 1);
         due.is(15, "1, not 0", x.broken(0), 0);
     }
 
@@ -132,22 +127,22 @@ public final class RulesTest {
         MaskedCopies x = twoTables();
         x.found(1, 1);
         x.found(1, 3);
-        rowOf(x, 1, 0, MISSING, 0, 0, 1);
+        due.row(x, 1, 0, MISSING, 0, 0, 1);
         due.is(15, "MISSING, and itself", x.broken(0), 100);
-        rowOf(x, 1, 14, MISSING, 0, 28, 1);
+        due.row(x, 1, 14, MISSING, 0, 28, 1);
         due.is(15, "28 is not there", x.broken(0), 1);
-        rowOf(x, 1, 28, 32, 0, 0, 1);
+        due.row(x, 1, 28, 32, 0, 0, 1);
         due.is(15, "32 is not there", x.broken(0), 0);
-        rowOf(x, 0, 32, 1, 1, 1);
+        due.row(x, 0, 32, 1, 1, 1);
         due.is(15, "all there", x.broken(0), 100);
     }
 
     private static void makingMasks() {
         MaskedCopies x = twoTables();
-        rowOf(x, 0, 12340, 109, 110, -1);
-        rowOf(x, 0, 0, MISSING, 9999, -9999);
-        rowOf(x, 1, 14, 12340, 9999, MISSING, 57);
-        rowOf(x, 1, 28, 0, MISSING, 14, MISSING);
+        due.row(x, 0, 12340, 109, 110, -1);
+        due.row(x, 0, 0, MISSING, 9999, -9999);
+        due.row(x, 1, 14, 12340, 9999, MISSING, 57);
+        due.row(x, 1, 28, 0, MISSING, 14, MISSING);
         x.mask(0, 0, 1, 0);
         x.dial(0, 0, 4, 1, 1);
         x.mask(0, 1, 3, 10);
@@ -173,9 +168,9 @@ public final class RulesTest {
         MaskedCopies x = new MaskedCopies();
         x.table();
         x.column(0, 4, 0);
-        rowOf(x, 0, 0, 10);
-        rowOf(x, 0, 14, MISSING);
-        rowOf(x, 0, 28, 30);
+        due.row(x, 0, 0, 10);
+        due.row(x, 0, 14, MISSING);
+        due.row(x, 0, 28, 30);
         int[][] want = {{10, MISSING, 30}, {MISSING, 30, 10}, {30, 10, MISSING}};
         for (int s = 0; s < 12; s++) {
             x.mask(0, 1, 4, s);
@@ -186,11 +181,11 @@ public final class RulesTest {
 
     private static void makingMends() {
         MaskedCopies x = twoTables();
-        rowOf(x, 0, 0, 1, 1, 77);
-        rowOf(x, 0, 14, 1, 1, MISSING);
-        rowOf(x, 1, 0, 0, 5, MISSING, 1);
-        rowOf(x, 1, 14, 0, 16, MISSING, 1);
-        rowOf(x, 1, 28, 14, 39, MISSING, 1);
+        due.row(x, 0, 0, 1, 1, 77);
+        due.row(x, 0, 14, 1, 1, MISSING);
+        due.row(x, 1, 0, 0, 5, MISSING, 1);
+        due.row(x, 1, 14, 0, 16, MISSING, 1);
+        due.row(x, 1, 28, 14, 39, MISSING, 1);
         x.mask(0, 0, 1, 0);
         x.dial(0, 0, 1, 1, 5);
         x.mask(1, 2, 3, 10);
@@ -217,10 +212,10 @@ public final class RulesTest {
             x.column(t, 3, 0);
             if (t > 0) x.column(t, 1, t - 1);
         }
-        rowOf(x, 0, 0, 8);
-        rowOf(x, 1, 0, 8, 0);
-        rowOf(x, 2, 0, 3, 0);
-        rowOf(x, 2, 14, 4, 0);
+        due.row(x, 0, 0, 8);
+        due.row(x, 1, 0, 8, 0);
+        due.row(x, 2, 0, 3, 0);
+        due.row(x, 2, 14, 4, 0);
         return x;
     }
 
@@ -240,8 +235,8 @@ public final class RulesTest {
 
     private static void makingFails() {
         MaskedCopies x = twoTables();
-        rowOf(x, 0, 0, 19, 15, 0);
-        rowOf(x, 0, 14, 25, 29, 0);
+        due.row(x, 0, 0, 19, 15, 0);
+        due.row(x, 0, 14, 25, 29, 0);
         x.mask(0, 1, 3, 10);
         x.mask(0, 2, 3, 10);
         x.order(0, 2, 1);
@@ -261,7 +256,7 @@ public final class RulesTest {
 
     private static void madeStaysAndGoes() {
         MaskedCopies x = twoTables();
-        rowOf(x, 0, 0, 1, 1, 0);
+        due.row(x, 0, 0, 1, 1, 0);
         x.make();
         x.owner(1, 1);
         x.mask(0, 1, 3, 10);
@@ -275,7 +270,7 @@ public final class RulesTest {
         x.row(0);
         due.is(16, "MADE stays", x.all(4), 1);
         due.is(16, "as it was", x.at(0, 0, 1, 1), 1);
-        rowOf(x, 1, 0, 0, 0, 0, 0);
+        due.row(x, 1, 0, 0, 0, 0, 0);
         due.is(16, "MADE goes with row()", x.all(4), 0);
         due.is(16, "no MADE CELL", x.at(0, 0, 1, 1), MISSING);
     }
