@@ -774,10 +774,12 @@ public final class MaskedCopies {
         }
     }
 
-    // The document says that the whole column becomes the sums, so missing cells are filled too.
+    // An AGREE asks nothing of a missing cell, so there is no sum that it could become.
     private void mendColumn(Rule rule) {
         for (int r = 0; r < rowsOf(rule.table); r++) {
-            draft.write(rule.table, r, rule.column, partsOf(rule, draft, r));
+            if (draft.read(rule.table, r, rule.column) != MISSING) {
+                draft.write(rule.table, r, rule.column, partsOf(rule, draft, r));
+            }
         }
     }
 

@@ -294,7 +294,8 @@ final class Model {
         }
         for (int[] rule : rules)
             if (rule[0] == 1 && rule[6] == 1)
-                for (Integer[] row : x.get(rule[1])) row[rule[2]] = sumFor(x, rule, row[0]);
+                for (Integer[] row : x.get(rule[1]))
+                    if (row[rule[2]] != null) row[rule[2]] = sumFor(x, rule, row[0]);
         int first = firstBroken(x);
         if (first == 100) made = x;
         return first;

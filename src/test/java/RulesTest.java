@@ -197,11 +197,18 @@ public final class RulesTest {
         due.is(15, "true ones are not MENDED", x.broken(0), 0);
         due.is(16, "MENDED", x.make(), 100);
         due.is(16, "0 and 10", x.at(0, 0, 3, 1), 10);
-        due.is(16, "a MISSING one becomes the sum, too", x.at(0, 1, 3, 1), 30);
+        due.is(16, "a MISSING one stays so", x.at(0, 1, 3, 1), MISSING);
         due.is(16, "the true one stays", x.at(0, 0, 3, 0), 77);
-        x.mask(0, 3, 5, 0);
+        due.is(20, "MISSING ones of the MENDED COLUMN", x.count(0, 3, MISSING, 1), 1);
+        due.is(22, "only the MENDED one is off", x.miss(0, 3), 67);
+        x.mask(0, 3, 3, 50);
         x.make();
         due.is(16, "behind all MASKS", x.at(0, 0, 3, 1), 10);
+        due.is(16, "a MISSING one of a COARSE COLUMN", x.at(0, 1, 3, 1), MISSING);
+        x.mask(0, 3, 5, 0);
+        due.is(16, "MENDED and BLOT", x.make(), 100);
+        due.is(16, "BLOT is not MENDED", x.at(0, 0, 3, 1), MISSING);
+        due.is(15, "broken(1)", x.broken(1), 100);
     }
 
     /** TABLE 0 has the sums of TABLE 1, which has those of TABLE 2. */
@@ -231,6 +238,13 @@ public final class RulesTest {
         y.agree(1, 1, 2, 1, 2, 1);
         due.is(16, "the outer first", y.make(), 0);
         due.is(16, "nothing MADE", y.all(4), 0);
+
+        MaskedCopies z = chain();
+        z.mask(1, 1, 5, 0);
+        z.agree(1, 1, 2, 1, 2, 1);
+        z.agree(0, 1, 1, 1, 2, 1);
+        due.is(16, "the inner one BLOT", z.make(), 100);
+        due.is(16, "MISSING ones are 0 in the outer sum", z.at(0, 0, 1, 1), 0);
     }
 
     private static void makingFails() {
