@@ -10,8 +10,17 @@ final class Edges {
     private static final Set<String> LOOKING = Set.of("broken", "at", "turned", "shift", "count", "joins", "miss",
         "could", "alike", "sure", "loss", "about", "all");
 
+    private static final int[] KEYS = {0, 14, 28, 32, 46, 50, 64, 78, 82, 96, 103, 1002};
+
     private final Due due = new Due();
     private final Twins twins = new Twins();
+
+    /** Calls that fill a TABLE with all the ROWS it may have; behind each KEY they have these CELLS (ROW: its number). */
+    static String twelveRows(int t, String cells) {
+        StringBuilder script = new StringBuilder();
+        for (int r = 0; r < KEYS.length; r++) script.append("fill(" + t + ", " + KEYS[r] + cells.replace("ROW", "" + r) + ") -> " + r + ";");
+        return script.toString();
+    }
 
     void hold(int promise, String sentence, String script) {
         List<Call> calls = Call.parse(script);

@@ -59,9 +59,7 @@ public final class LookingEdgesTest {
             mask(0, 1, 5, 0); mask(0, 2, 5, 0); make(); count(0, 1, MISSING, 1) -> 2; count(0, 2, MISSING, 1) -> 2; count(0, 3, MISSING, 1) -> 1
             count(0, 1, MISSING, 0) -> 1; count(0, 2, MISSING, 0) -> 0
             """);
-        int[] keys = {0, 14, 28, 32, 46, 50, 64, 78, 82, 96, 103, 1002};
-        StringBuilder full = new StringBuilder("table(); column(0, 4, 0);");
-        for (int key : keys) full.append("fill(0, " + key + ", 9);");
+        String full = "table(); column(0, 4, 0);" + Edges.twelveRows(0, ", 9");
         edges.hold(20, "How many ROWS have v (MISSING, too) in a COLUMN.", full + """
             count(0, 1, 9, 0) -> 12; count(0, 1, MISSING, 0) -> 0; count(0, 0, 1002, 0) -> 1; mask(0, 1, 5, 0); make()
             count(0, 1, 9, 1) -> 0; count(0, 1, MISSING, 1) -> 12
@@ -85,9 +83,7 @@ public final class LookingEdgesTest {
             fill(1, 28, 0); joins(1, 1, 0) -> 2; fill(1, 32, 14); joins(1, 1, 0) -> 3; fill(1, 46, 28); joins(1, 1, 0) -> 3
             mask(0, 0, 1, 0); dial(0, 0, 4, 7, 3); make(); joins(1, 1, 1) -> 3; mask(1, 1, 5, 0); make(); joins(1, 1, 1) -> 0; joins(1, 1, 0) -> 3
             """);
-        int[] keys = {0, 14, 28, 32, 46, 50, 64, 78, 82, 96, 103, 1002};
-        StringBuilder full = new StringBuilder("table(); column(0, 1, 0);");
-        for (int key : keys) full.append("fill(0, " + key + ", 1002);");
+        String full = "table(); column(0, 1, 0);" + Edges.twelveRows(0, ", 1002");
         edges.hold(21, "How many pairs of a ROW of t and one of the TABLE to which REF COLUMN c goes join.", full + "joins(0, 1, 0) -> 12; make(); joins(0, 1, 1) -> 12");
     }
 
@@ -108,9 +104,7 @@ public final class LookingEdgesTest {
             table(); column(0, 2, 0); column(0, 3, 0); make(); miss(0, 1) -> 0; miss(0, 2) -> 0
             fill(0, 0, 100, -1); fill(0, 46, 100, 1); mask(0, 1, 2, 0); mask(0, 2, 3, 1000); make(); miss(0, 1) -> 46; miss(0, 2) -> 1000
             """);
-        int[] keys = {0, 14, 28, 32, 46, 50, 64, 78, 82, 96, 103, 1002};
-        StringBuilder full = new StringBuilder("table(); column(0, 3, 0); mask(0, 1, 3, 1000);");
-        for (int key : keys) full.append("fill(0, " + key + ", -9001);");
+        String full = "table(); column(0, 3, 0); mask(0, 1, 3, 1000);" + Edges.twelveRows(0, ", -9001");
         edges.hold(22, "The sum of how far MADE numbers of a COLUMN of DAYS or SUMS are from true ones", full + "make(); miss(0, 1) -> 11988; loss(0, 1) -> 11988");
     }
 }

@@ -286,6 +286,11 @@ public final class MaskEdgesTest {
             make(); at(0, 0, 2, 1) -> 0; at(0, 1, 2, 1) -> 9999; at(0, 2, 2, 1) -> 500; at(0, 3, 2, 1) -> 470; at(0, 4, 2, 1) -> MISSING
             seed(60); make(); at(0, 2, 2, 1) -> 500; at(0, 3, 2, 1) -> 530
             """);
+        edges.hold(19, "(by 0, if the ROW has no OWNER)", """
+            table(); column(0, 1, 0); column(0, 2, 0); mask(0, 2, 2, 0); owner(0, 1); fill(0, 0, MISSING, 500); fill(0, 14, MISSING, 5000)
+            make(); at(0, 0, 2, 1) -> 500; at(0, 1, 2, 1) -> 5000; seed(29); make(); at(0, 0, 2, 1) -> 500; seed(31); make(); at(0, 0, 2, 1) -> 500
+            seed(60); make(); at(0, 0, 2, 1) -> 500; at(0, 1, 2, 1) -> 5000; owner(0, 0); make(); at(0, 0, 2, 1) -> 530; at(0, 1, 2, 1) -> 4983
+            """);
     }
 
     private static void coarseNumbers() {

@@ -1,7 +1,6 @@
 /** What the document says of the edges of promises 23 to 27, a script for each sentence. */
 public final class NeighbourEdgesTest {
     private static final Edges edges = new Edges();
-    private static final int[] KEYS = {0, 14, 28, 32, 46, 50, 64, 78, 82, 96, 103, 1002};
     private static final String ONE_SUM = "table(); column(0, 3, 0);";
     private static final String TWO_SUMS = "table(); column(0, 3, 0); column(0, 3, 0);";
 
@@ -132,7 +131,7 @@ public final class NeighbourEdgesTest {
     private static void sures() {
         edges.hold(25, "if all MASKED ROWS that COULD be it have the same there (all MISSING, too)", """
             table(); column(0, 3, 0); column(0, 4, 0); fill(0, 0, 1, 5); sure(0, 0, 0, 0) -> 1; sure(0, 0, 0, 2) -> 1
-            fill(0, 14, 1, 5); sure(0, 0, 0, 2) -> 1; sure(0, 0, 0, 0) -> 0; sure(0, 0, 1, 0) -> 1
+            fill(0, 14, 1, 5); sure(0, 0, 0, 2) -> 1; sure(0, 0, 0, 0) -> 0; sure(0, 1, 0, 0) -> 0; sure(0, 0, 1, 0) -> 1; sure(0, 1, 1, 0) -> 1
             fill(0, 28, 2, MISSING); fill(0, 32, 2, MISSING); sure(0, 2, 2, 2) -> 1; sure(0, 0, 2, 2) -> 1; sure(0, 0, 0, 2) -> 0; sure(0, 2, 2, 1) -> 1
             fill(0, 46, 2, 5); sure(0, 2, 2, 2) -> 0; sure(0, 4, 2, 2) -> 0; sure(0, 4, 4, 1) -> 0; sure(0, 4, 6, 1) -> 1
             mask(0, 1, 3, 10); sure(0, 4, 2, 2) -> 0; sure(0, 0, 4, 1) -> 1; mask(0, 2, 5, 0); sure(0, 4, 2, 2) -> 1; sure(0, 4, 0, 2) -> 1
@@ -235,8 +234,8 @@ public final class NeighbourEdgesTest {
     }
 
     private static void fullTable() {
-        StringBuilder full = new StringBuilder("table(); column(0, 3, 0); column(0, 3, 0); column(0, 3, 0); column(0, 3, 0); column(0, 3, 0);");
-        for (int r = 0; r < KEYS.length; r++) full.append("fill(0, " + KEYS[r] + ", 1, 2, 3, 4, " + r + ");");
+        String full = "table(); column(0, 3, 0); column(0, 3, 0); column(0, 3, 0); column(0, 3, 0); column(0, 3, 0);"
+            + Edges.twelveRows(0, ", 1, 2, 3, 4, ROW");
         edges.hold(24, "ROWS, numbered from 0 on, 12 at most", full + """
             could(0, 11, 0) -> 12; could(0, 11, 30) -> 12; could(0, 11, 62) -> 1; could(0, 12, 0) -> NONE; alike(0, 0) -> 12; alike(0, 30) -> 12; alike(0, 63) -> 1
             sure(0, 11, 30, 4) -> 1; sure(0, 11, 30, 5) -> 0; sure(0, 12, 30, 4) -> NONE

@@ -9,7 +9,6 @@ public final class RefusalsTest {
     private static final String PLAIN = "table(); table(); column(0, 1, 1); column(0, 2, 0); column(0, 3, 0); column(0, 4, 0);"
         + "column(1, 3, 0); column(1, 1, 0); fill(1, 0, 5, 14); fill(1, 14, 6, MISSING);";
     private static final String EIGHT_RULES = "found(0, 1); found(0, 1); found(0, 1); found(0, 1); found(0, 1); found(0, 1); found(0, 1); found(0, 1);";
-    private static final int[] KEYS = {0, 14, 28, 32, 46, 50, 64, 78, 82, 96, 103, 1002};
 
     public static void main(String[] args) {
         columns();
@@ -45,9 +44,7 @@ public final class RefusalsTest {
     }
 
     private static void rowsOfFullTables() {
-        StringBuilder full = new StringBuilder("table(); column(0, 2, 0);");
-        for (int key : KEYS) full.append("fill(0, " + key + ", 7);");
-        edges.hold(5, SENTENCE, full + """
+        edges.hold(5, SENTENCE, "table(); column(0, 2, 0);" + Edges.twelveRows(0, ", 7") + """
             row(0) -> BAD; cell(10001); row(0) -> BAD; row(1) -> NONE; cell(10000); row(0) -> BAD; wipe()
             cell(10002); cell(0); row(0) -> BAD; wipe(); cell(10001); cell(0); cell(0); row(0) -> BAD; wipe()
             cell(0); cell(-1); row(0) -> BAD; wipe(); cell(0); cell(0); row(0) -> STATE; wipe(); cell(1002); cell(0); row(0) -> STATE; wipe()

@@ -20,6 +20,7 @@ public final class RuleEdgesTest {
         agreesHold();
         foundsHold();
         firstBroken();
+        numbersAnew();
         mends();
         mendsOfMissing();
         mendsInOrder();
@@ -174,6 +175,18 @@ public final class RuleEdgesTest {
             """);
     }
 
+    /** A RULE under a number that another one had is of its own KIND, TABLE and COLUMNS alone. */
+    private static void numbersAnew() {
+        String three = "table(); table(); table(); column(0, 2, 0); column(0, 2, 0); column(1, 2, 0); column(1, 2, 0); column(1, 3, 0); column(1, 1, 2);"
+            + "column(2, 3, 0); column(2, 1, 1); fill(0, 0, 2, 1); fill(1, 0, 1, 2, 5, MISSING); fill(2, 0, 5, 0);";
+        edges.hold(14, "All RULES go: how many there were.", three + """
+            order(0, 1, 2) -> 0; broken(0) -> 0; unrule() -> 1; order(1, 1, 2) -> 0; broken(0) -> 100; unrule(); order(1, 2, 1) -> 0; broken(0) -> 0; make() -> 0
+            unrule(); agree(1, 3, 2, 1, 2, 0) -> 0; broken(0) -> 100; unrule(); found(2, 2) -> 0; broken(0) -> 100; unrule(); found(1, 4) -> 0; broken(0) -> 100
+            unrule(); order(0, 1, 2) -> 0; broken(0) -> 0; unrule(); agree(1, 3, 2, 1, 2, 1) -> 0; broken(0) -> 100; unrule(); order(0, 2, 1) -> 0; broken(0) -> 100
+            unrule(); found(1, 4) -> 0; found(1, 4) -> 1; unrule(); order(1, 1, 2) -> 0; order(0, 1, 2) -> 1; broken(0) -> 1
+            """);
+    }
+
     private static void mends() {
         edges.hold(16, "An AGREE can be MENDED: in MADE TABLES the COLUMN becomes those sums", SUMS + """
             agree(0, 1, 1, 1, 2, 1) -> 0; fill(0, 0, 77); fill(0, 14, -5); fill(1, 0, 5, 0); fill(1, 14, -6, 0); fill(1, 28, 9, 28); fill(1, 32, 8, MISSING)
@@ -222,13 +235,11 @@ public final class RuleEdgesTest {
 
     /** Twelve parts of the farthest sum: what is MENDED may go beyond what a true SUM may be. */
     private static void mendsFarOut() {
-        int[] keys = {0, 14, 28, 32, 46, 50, 64, 78, 82, 96, 103, 1002};
         for (int sign = -1; sign < 2; sign += 2) {
-            StringBuilder script = new StringBuilder(SUMS + "agree(0, 1, 1, 1, 2, 1); fill(0, 0, 0);");
-            for (int key : keys) script.append("fill(1, " + key + ", " + 9999 * sign + ", 0);");
-            script.append("broken(0) -> 0; make() -> 100; at(0, 0, 1, 1) -> " + 119988 * sign + "; miss(0, 1) -> 119988;");
-            script.append("mask(1, 1, 3, 1000); make() -> 100; at(0, 0, 1, 1) -> " + (sign < 0 ? -120000 : 108000));
-            edges.hold(16, "An AGREE can be MENDED: in MADE TABLES the COLUMN becomes those sums", script.toString());
+            String script = SUMS + "agree(0, 1, 1, 1, 2, 1); fill(0, 0, 0);" + Edges.twelveRows(1, ", " + 9999 * sign + ", 0")
+                + "broken(0) -> 0; make() -> 100; at(0, 0, 1, 1) -> " + 119988 * sign + "; miss(0, 1) -> 119988;"
+                + "mask(1, 1, 3, 1000); make() -> 100; at(0, 0, 1, 1) -> " + (sign < 0 ? -120000 : 108000);
+            edges.hold(16, "An AGREE can be MENDED: in MADE TABLES the COLUMN becomes those sums", script);
         }
     }
 

@@ -1,10 +1,7 @@
 /** What the document says of the edges of promises 1 to 6, 28 and 29, a script for each sentence. */
 public final class TableEdgesTest {
     private static final Edges edges = new Edges();
-    private static final String TWELVE_ROWS = """
-        fill(0, 0) -> 0; fill(0, 14) -> 1; fill(0, 28) -> 2; fill(0, 32) -> 3; fill(0, 46) -> 4; fill(0, 50) -> 5
-        fill(0, 64) -> 6; fill(0, 78) -> 7; fill(0, 82) -> 8; fill(0, 96) -> 9; fill(0, 103) -> 10; fill(0, 1002) -> 11
-        """;
+    private static final String TWELVE_ROWS = Edges.twelveRows(0, "");
 
     public static void main(String[] args) {
         newObject();
@@ -28,6 +25,7 @@ public final class TableEdgesTest {
         aboutTables();
         aboutColumns();
         allOfIt();
+        fullObject();
         lastCall();
         edges.end();
     }
@@ -331,6 +329,18 @@ public final class TableEdgesTest {
             table(); table(); column(0, 1, 0); found(0, 1); found(0, 1); found(0, 1); seed(60); cell(0); cell(0); cell(0); cell(0)
             all(0) -> 2; all(1) -> 3; all(2) -> 4; all(3) -> 60; all(4) -> 0; make(); all(4) -> 1
             all(-1) -> NONE; all(5) -> NONE; all(10) -> NONE; all(MAX) -> NONE; all(MISSING) -> NONE
+            """);
+    }
+
+    private static void fullObject() {
+        StringBuilder script = new StringBuilder("table(); table(); table(); table();");
+        for (int t = 0; t < 4; t++) script.append("column(T, 2, 0); column(T, 3, 0); column(T, 4, 0); column(T, 4, 0); column(T, 1, 3) -> 5;".replace('T', (char) ('0' + t)));
+        for (int t = 0; t < 4; t++) script.append(Edges.twelveRows(t, ", " + (100 + t) + ", -5, 6, 7, 1002"));
+        edges.hold(5, "TABLES are numbered from 0 on, 4 at most, each with COLUMNS, numbered from 0 on, 6 at most, and ROWS, numbered from 0 on, 12 at most.", script + """
+            at(0, 0, 0, 0) -> 0; at(0, 11, 5, 0) -> 1002; at(1, 0, 1, 0) -> 101; at(2, 11, 1, 0) -> 102; at(3, 0, 0, 0) -> 0; at(3, 11, 5, 0) -> 1002
+            at(3, 11, 6, 0) -> MISSING; at(3, 12, 0, 0) -> MISSING; at(4, 0, 0, 0) -> MISSING; table() -> FULL; column(3, 2, 0) -> STATE; joins(3, 5, 0) -> 12
+            mask(3, 0, 1, 0); dial(3, 0, 1, 1, 1); make() -> 100; at(3, 11, 0, 1) -> 1016; at(3, 11, 5, 1) -> 1016; at(0, 11, 0, 1) -> 1002; at(0, 11, 5, 1) -> 1016
+            joins(0, 5, 1) -> 12; joins(3, 5, 1) -> 12; count(3, 1, 103, 1) -> 12; alike(3, 63) -> 12; alike(0, 1) -> 1; could(0, 11, 62) -> 12
             """);
     }
 
