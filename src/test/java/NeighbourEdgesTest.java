@@ -22,6 +22,8 @@ public final class NeighbourEdgesTest {
         bestOfSeveral();
         bestLeavesOthers();
         fullTable();
+        lastOfFullTable();
+        bestOfAllWays();
         edges.end();
     }
 
@@ -242,6 +244,39 @@ public final class NeighbourEdgesTest {
             mask(0, 1, 3, 9); mask(0, 2, 3, 9); mask(0, 3, 3, 9); mask(0, 4, 3, 9); mask(0, 5, 3, 9)
             best(0, 62, 2) -> 46; about(0, 5, 13) -> 10; best(0, 62, 3) -> 66; about(0, 5, 13) -> 100; about(0, 1, 13) -> 1; best(0, 62, 12) -> 66
             best(0, 62, 13) -> STATE; best(0, 62, MAX) -> STATE; about(0, 5, 13) -> 100; alike(0, 62) -> 12
+            best(0, 0, 12) -> 0; about(0, 5, 13) -> 1; best(0, 32, 12) -> 66; about(0, 1, 13) -> 1; about(0, 5, 13) -> 100; best(0, 30, 12) -> 0; about(0, 5, 13) -> 1
             """);
+    }
+
+    /** Eleven ROWS alike: what holds of them does not hold of the last one. */
+    private static void lastOfFullTable() {
+        String full = ONE_SUM + Edges.twelveRows(0, ", 5").replace("1002, 5", "1002, 15");
+        edges.hold(27, "of all ROWS", full + """
+            could(0, 0, 2) -> 11; could(0, 10, 2) -> 11; could(0, 11, 2) -> 1; alike(0, 2) -> 1; sure(0, 0, 2, 1) -> 1; sure(0, 11, 0, 1) -> 0; sure(0, 0, 0, 1) -> 0
+            mask(0, 1, 3, 10); alike(0, 2) -> 1; loss(0, 1) -> 60; best(0, 2, 1) -> 0; about(0, 1, 13) -> 1; best(0, 2, 2) -> 70; about(0, 1, 13) -> 100; alike(0, 2) -> 12
+            """);
+    }
+
+    /** As many COARSE COLUMNS as there can be, with the last of all ways, and with the far WIDTH in one COLUMN alone. */
+    private static void bestOfAllWays() {
+        String sentence = "of all ways to give WIDTHS out of 1, 10, 100, 1000 to the COARSE COLUMNS of a TABLE";
+        for (int n = 1; n <= 5; n++) {
+            StringBuilder script = new StringBuilder("table();");
+            for (int c = 1; c <= n; c++) script.append("column(0, 3, 0) -> " + c + "; mask(0, " + c + ", 3, 5);");
+            script.append("fill(0, 0" + ", 0".repeat(n) + "); fill(0, 14" + ", 999".repeat(n) + ");");
+            int all = (2 << n) - 2;
+            script.append("best(0, " + all + ", 2) -> " + 999 * n + ";" + widths(n, all));
+            script.append("best(0, " + all + ", 3) -> STATE;" + widths(n, all));
+            for (int c = 1; c <= n; c++) script.append("best(0, " + (1 << c) + ", 2) -> 999;" + widths(n, 1 << c));
+            script.append("best(0, " + all + ", 1) -> 0;" + widths(n, 0));
+            edges.hold(27, sentence, script.toString());
+        }
+    }
+
+    /** Of COLUMNS 1 to n those of a set have WIDTH 1000, the others 1. */
+    private static String widths(int n, int far) {
+        StringBuilder script = new StringBuilder();
+        for (int c = 1; c <= n; c++) script.append("about(0, " + c + ", 13) -> " + ((far >> c & 1) == 1 ? 1000 : 1) + ";");
+        return script.toString();
     }
 }

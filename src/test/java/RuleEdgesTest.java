@@ -94,6 +94,11 @@ public final class RuleEdgesTest {
         String seven = "found(1, 1); found(1, 1); found(1, 1); found(1, 1); found(1, 1); found(1, 1); found(1, 1);";
         edges.hold(12, "8 at most", TWO_TABLES + seven + "agree(0, 3, 1, 2, 1, 0) -> 7; agree(0, 3, 1, 2, 1, 0) -> FULL");
         edges.hold(13, "8 at most", TWO_TABLES + seven + "found(1, 1) -> 7; found(1, 1) -> FULL");
+        String sevenOfSums = seven.replace("found(1, 1)", "found(1, 2)");
+        edges.hold(16, "RULES are numbered from 0 on, 8 at most", SUMS + sevenOfSums + """
+            agree(0, 1, 1, 1, 2, 1) -> 7; fill(0, 0, 77); fill(1, 0, 5, 0); broken(0) -> 7; make() -> 100; at(0, 0, 1, 1) -> 5; broken(1) -> 100
+            fill(1, 14, 5, 14); broken(0) -> 0; make() -> 0
+            """);
     }
 
     private static void unrules() {
