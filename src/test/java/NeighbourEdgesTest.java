@@ -21,6 +21,7 @@ public final class NeighbourEdgesTest {
         bestWidths();
         bestOfSeveral();
         bestLeavesOthers();
+        bestBesideOthers();
         fullTable();
         lastOfFullTable();
         bestOfAllWays();
@@ -232,6 +233,21 @@ public final class NeighbourEdgesTest {
             mask(0, 1, 3, 3); mask(0, 2, 3, 3); fill(0, 0, 1, 77); fill(0, 14, 2, 99); make(); at(0, 0, 1, 1) -> 0; at(0, 0, 2, 1) -> 75
             best(0, 2, 2) -> 3; about(0, 1, 13) -> 10; about(0, 2, 13) -> 1; at(0, 0, 2, 1) -> 75; loss(0, 1) -> 3; loss(0, 2) -> 0; alike(0, 2) -> 2; alike(0, 6) -> 1
             make(); at(0, 0, 1, 1) -> 0; at(0, 0, 2, 1) -> 77; best(0, 6, 2) -> 179; about(0, 1, 13) -> 10; about(0, 2, 13) -> 100
+            """);
+    }
+
+    /** What a NEIGHBOUR knows of COLUMNS that are not COARSE parts the ROWS, too, and no WIDTH brings them together. */
+    private static void bestBesideOthers() {
+        edges.hold(27, "with which ALIKE is k or more", """
+            table(); column(0, 4, 0); column(0, 3, 0); mask(0, 2, 3, 5)
+            fill(0, 0, 5, 1); fill(0, 14, 5, 2); fill(0, 28, 6, 3); best(0, 6, 2) -> STATE; best(0, 2, 2) -> STATE; best(0, 4, 2) -> 6; about(0, 2, 13) -> 10
+            fill(0, 32, 6, 14); best(0, 6, 2) -> 20; about(0, 2, 13) -> 100; best(0, 2, 2) -> 0; about(0, 2, 13) -> 1; fill(0, 46, 5, 4); best(0, 6, 3) -> STATE
+            best(0, 6, 2) -> 24; about(0, 2, 13) -> 100; best(0, 4, 5) -> 24; mask(0, 1, 1, 0); best(0, 6, 5) -> 24; mask(0, 1, 5, 0); best(0, 6, 5) -> 24
+            """);
+        edges.hold(27, "with which ALIKE is k or more", """
+            table(); column(0, 2, 0); column(0, 3, 0); mask(0, 1, 2, 0); mask(0, 2, 3, 5)
+            fill(0, 0, 100, 1); fill(0, 14, 200, 2); fill(0, 28, MISSING, 3); fill(0, 32, MISSING, 4); best(0, 6, 2) -> 10; about(0, 2, 13) -> 10; best(0, 6, 3) -> STATE
+            best(0, 4, 4) -> 10; best(0, 2, 2) -> 0; about(0, 2, 13) -> 1; best(0, 2, 3) -> STATE; fill(0, 46, MISSING, 5); best(0, 6, 2) -> 15; best(0, 6, 3) -> STATE
             """);
     }
 
